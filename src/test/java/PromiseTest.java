@@ -14,9 +14,11 @@ public final class PromiseTest {
         put();
         find();
         findTies();
+        findWeighs();
         least();
         along();
         alongGivesUp();
+        alongWeighs();
         cost();
         costOfMost();
         of();
@@ -46,6 +48,12 @@ public final class PromiseTest {
         x.put(1, 2);
         x.put(2, 0);
         x.put(3, 2);
+        return x;
+    }
+
+    private static VoiceRows single() {
+        VoiceRows x = new VoiceRows();
+        x.note(3, 4, 60);
         return x;
     }
 
@@ -204,6 +212,25 @@ public final class PromiseTest {
         due.is("7: the other voice", x.of(1, 3), 1);
     }
 
+    /** A melody over a held note, with each weight in turn alone. */
+    private static void findWeighs() {
+        VoiceRows x = new VoiceRows();
+        x.note(0, 10, 60);
+        x.note(1, 3, 70);
+        x.note(5, 7, 50);
+        x.note(9, 12, 64);
+        x.note(14, 15, 61);
+        int[][] voices = {{0, 1, 2, 1, 0}, {0, 1, 1, 1, 2}, {1, 0, 2, 0, 0}, {0, 1, 1, 1, 0}};
+        // leaps 6 + 1; gaps 2 + 2; no crossing; two voices
+        int[] least = {7, 4, 0, 2};
+        for (int which = 0; which < 4; which++) {
+            for (int i = 0; i < 4; i++) x.weigh(i, i == which ? 1 : 0);
+            due.is("7: only weight " + which, x.find(3), least[which]);
+            for (int i = 0; i < 5; i++) due.is("7: only weight " + which + ", of(" + i + ", 3)", x.of(i, 3), voices[which][i]);
+            due.is("7: only weight " + which + ", its part", x.cost(which + 1), least[which]);
+        }
+    }
+
     private static void least() {
         VoiceRows x = sample();
         due.is("8: least(1)", x.least(1), NONE);
@@ -254,6 +281,28 @@ public final class PromiseTest {
         x.move(4, 10, 11, 60);
         due.is("9: one behind the others", x.along(4), 1);
         due.is("9: one behind the others", x.of(4, 3), 0);
+    }
+
+    private static void alongWeighs() {
+        VoiceRows x = new VoiceRows();
+        x.note(0, 10, 60);
+        x.note(1, 3, 70);
+        x.note(4, 6, 50);
+        due.is("9: three voices", x.along(3), 1);
+        // Note 1 crosses note 0 in either voice that is left; note 2 would leap by 20, or come by a new voice.
+        due.is("9: of(1, 3)", x.of(1, 3), 1);
+        due.is("9: of(2, 3)", x.of(2, 3), 2);
+        due.is("9: one crossing", x.cost(3), 12);
+        x.weigh(3, 30);
+        due.is("9: a new voice is dear", x.along(3), 1);
+        due.is("9: of(2, 3)", x.of(2, 3), 1);
+        x.move(0, 0, 10, 80);
+        x.move(1, 0, 1, 90);
+        x.move(2, 4, 6, 85);
+        due.is("9: the higher first", x.along(2), 1);
+        due.is("9: of(1, 3)", x.of(1, 3), 0);
+        due.is("9: of(0, 3)", x.of(0, 3), 1);
+        due.is("9: of(2, 3)", x.of(2, 3), 0);
     }
 
     private static void cost() {
@@ -312,6 +361,11 @@ public final class PromiseTest {
         due.is("11: clashes of 3", x.of(3, 6), 1);
         due.is("11: next of 3", x.of(3, 5), 2);
         due.is("11: next of 0", x.of(0, 5), NONE);
+        x.put(1, 0);
+        due.is("11: clashes with note 0", x.of(1, 6), 1);
+        x.move(1, 6, 9, 60);
+        due.is("11: touching is no clash", x.of(1, 6), 0);
+        due.is("11: touching is no clash", x.of(0, 6), 0);
         x.put(0, NONE);
         x.put(1, NONE);
         due.is("11: without a voice none clashes", x.of(0, 6), 0);
@@ -343,6 +397,12 @@ public final class PromiseTest {
         due.is("14: needed()", x.needed(), 2);
         x.note(5, 8, 60);
         due.is("14: three at 5", x.needed(), 3);
+        x.move(0, 5, 6, 1);
+        due.is("14: three at 5", x.needed(), 3);
+        x.move(0, 3, 6, 1);
+        x.move(5, 3, 4, 1);
+        due.is("14: three at 3", x.needed(), 3);
+        due.is("14: a single note", single().needed(), 1);
         x.clear();
         for (int i = 0; i < 60; i++) x.note(i, 60, 60);
         due.is("14: more than there are", x.needed(), 60);
@@ -455,6 +515,9 @@ public final class PromiseTest {
         due.is("19: pitch 0", x.voice(3, 1), 0);
         due.is("19: one note", x.voice(3, 2), 1);
         due.is("19: LOW", x.voice(0, LOW), RANGE);
+        x.move(0, 2, 6, 65);
+        due.is("19: note 0 is the highest", x.voice(0, 1), 65);
+        due.is("19: note 0 is not the lowest", x.voice(0, 0), 64);
     }
 
     private static void told() {
@@ -469,6 +532,13 @@ public final class PromiseTest {
         due.is("20: voices", x.told(4), 3);
         x.move(4, 15, 100000, 1);
         due.is("20: the end", x.told(2), 100000);
+        x.move(4, 15, 16, 1);
+        x.move(0, 0, 17, 1);
+        due.is("20: note 0 ends last", x.told(2), 17);
+        VoiceRows y = single();
+        due.is("20: note 0 has no voice", y.told(3), 0);
+        y.put(0, 3);
+        due.is("20: note 0 has one", y.told(3), 1);
         int[] wrong = {-1, 5, LOW, HIGH};
         for (int what : wrong) due.is("20: told(" + what + ")", x.told(what), RANGE);
     }

@@ -1,6 +1,7 @@
 /** Counts and prints the answers that are not the ones that are due. */
 final class Due {
     private final String test;
+    private String part = "";
     private int wrong;
     private int asked;
 
@@ -8,24 +9,43 @@ final class Due {
         this.test = test;
     }
 
+    /** What is asked from here on belongs to these words of the document. */
+    void sentence(String words) {
+        part = "\"" + words + "\": ";
+    }
+
     void is(String call, long got, long want) {
         asked++;
         if (got != want) {
-            wrong++;
-            System.out.println(test + ": " + call + " answered " + got + ", due is " + want);
+            tell(call + " answered " + got + ", due is " + want);
+        }
+    }
+
+    void same(String what, String got, String want) {
+        asked++;
+        if (!got.equals(want)) {
+            tell(what + " is " + got + ", due is " + want);
         }
     }
 
     void holds(String what, boolean so) {
         asked++;
         if (!so) {
-            wrong++;
-            System.out.println(test + ": not so: " + what);
+            tell("not so: " + what);
         }
+    }
+
+    private void tell(String what) {
+        wrong++;
+        System.out.println(test + ": " + part + what);
     }
 
     int wrong() {
         return wrong;
+    }
+
+    int asked() {
+        return asked;
     }
 
     void end() {

@@ -1,8 +1,9 @@
 import java.util.Random;
 
-/** Runs of calls, drawn with fixed seeds, on VoiceRows and on PlainVoices: all answers must agree. */
+/** Runs of 512 calls, drawn with fixed seeds, on VoiceRows and on PlainVoices: all answers must agree. */
 public final class OracleTest {
     private static final Due due = new Due("OracleTest");
+    private static final int CALLS = 512;
 
     private final Random draw;
     private final VoiceRows x = new VoiceRows();
@@ -19,10 +20,10 @@ public final class OracleTest {
     }
 
     public static void main(String[] args) {
-        for (int seed = 0; seed < 400 && due.wrong() < 20; seed++) new OracleTest(seed, 12, 5).run(200);
-        for (int seed = 400; seed < 520 && due.wrong() < 20; seed++) new OracleTest(seed, 30, 7).run(120);
-        for (int seed = 520; seed < 560 && due.wrong() < 20; seed++) new OracleTest(seed, 120, 61).run(400);
-        for (int seed = 560; seed < 590 && due.wrong() < 20; seed++) twoVoicesOfFourteen(seed);
+        for (int seed = 0; seed < 1000 && due.wrong() < 20; seed++) new OracleTest(seed, 12, 5).run();
+        for (int seed = 1000; seed < 1100 && due.wrong() < 20; seed++) new OracleTest(seed, 30, 7).run();
+        for (int seed = 1100; seed < 1200 && due.wrong() < 20; seed++) new OracleTest(seed, 120, 61).run();
+        for (int seed = 1200; seed < 1230 && due.wrong() < 20; seed++) twoVoicesOfFourteen(seed);
         due.end();
     }
 
@@ -37,15 +38,20 @@ public final class OracleTest {
         }
         t.weigh(t.draw.nextInt(4), t.draw.nextInt(20));
         t.is("find(2)", t.x.find(2), t.plain.find(2));
-        t.askAll();
+        for (int i = 0; i < 14; i++) t.is("of(" + i + ", 3)", t.x.of(i, 3), t.plain.of(i, 3));
+        while (t.call < CALLS) t.ask();
     }
 
-    private void run(int calls) {
-        for (int i = 0; i < calls; i++) {
-            change();
-            if (i % 10 == 9) ask();
+    private void run() {
+        // A long run has many notes soon, so that what is asked is asked of many.
+        for (int i = 0; notes > 20 && i < 50; i++) {
+            int from = pick(0, span);
+            note(from, from + pick(1, longest), 60 + i % 5);
         }
-        askAll();
+        while (call < CALLS) {
+            if (draw.nextInt(3) == 0) change();
+            else ask();
+        }
     }
 
     private void is(String what, int got, int want) {
@@ -59,6 +65,10 @@ public final class OracleTest {
         return at == 0 ? low - 1 : at == 1 ? high + 1 : low + draw.nextInt(high - low + 1);
     }
 
+    private int pickNote() {
+        return pick(0, Math.max(0, plain.told(0) - 1));
+    }
+
     private void note(int from, int to, int pitch) {
         is("note(" + from + ", " + to + ", " + pitch + ")", x.note(from, to, pitch), plain.note(from, to, pitch));
     }
@@ -69,7 +79,9 @@ public final class OracleTest {
 
     private void change() {
         int from = pick(0, span), to = from + pick(1, longest), pitch = 60 + draw.nextInt(5);
-        int one = pick(0, Math.max(0, plain.told(0) - 1)), v = pick(-1, 3), n = pick(1, 4);
+        int one = pickNote(), v = pick(-1, 3), n = pick(1, 4);
+        // FINDING can't be tried plainly for 8 to 14 notes.
+        boolean canFind = plain.told(0) < 8 || plain.told(0) > 14;
         switch (draw.nextInt(12)) {
             case 0: case 1: case 2: case 3:
                 if (plain.told(0) < notes) note(from, to, pitch);
@@ -85,12 +97,10 @@ public final class OracleTest {
                 is("put(" + one + ", " + v + ")", x.put(one, v), plain.put(one, v));
                 break;
             case 8:
-                fillLongRun();
-                is("find(" + n + ")", x.find(n), plain.find(n));
+                if (canFind) is("find(" + n + ")", x.find(n), plain.find(n));
                 break;
             case 9:
-                fillLongRun();
-                is("least(" + n + ")", x.least(n), plain.least(n));
+                if (canFind) is("least(" + n + ")", x.least(n), plain.least(n));
                 break;
             case 10:
                 is("along(" + n + ")", x.along(n), plain.along(n));
@@ -100,55 +110,50 @@ public final class OracleTest {
         }
     }
 
-    /** FINDING can't be tried plainly for 8 to 14 notes: a long run first gets so many that it is refused. */
-    private void fillLongRun() {
-        while (notes >= 20 && plain.told(0) < 15) {
-            int at = plain.told(0);
-            note(at, at + 3, 60);
-        }
-    }
-
     private void ask() {
-        int v = pick(0, 4), i = pick(0, 5), kind = pick(0, 2), time = pick(0, span + longest);
-        for (int part = -1; part <= 5; part++) is("cost(" + part + ")", x.cost(part), plain.cost(part));
-        for (int what = -1; what <= 5; what++) is("told(" + what + ")", x.told(what), plain.told(what));
-        is("sounding(" + time + ")", x.sounding(time), plain.sounding(time));
-        is("needed()", x.needed(), plain.needed());
-        is("rests(" + v + ")", x.rests(v), plain.rests(v));
-        is("rest(" + v + ", " + i + ", 0)", x.rest(v, i, 0), plain.rest(v, i, 0));
-        is("pairs(" + kind + ")", x.pairs(kind), plain.pairs(kind));
-        is("pair(" + kind + ", " + i + ", 1)", x.pair(kind, i, 1), plain.pair(kind, i, 1));
-    }
-
-    private void askAll() {
-        ask();
-        int all = plain.told(0);
-        for (int one = -1; one <= all; one++) {
-            is("ranked(" + one + ")", x.ranked(one), plain.ranked(one));
-            for (int what = -1; what <= 7; what++) {
-                is("of(" + one + ", " + what + ")", x.of(one, what), plain.of(one, what));
-            }
-        }
-        for (int v = -1; v <= 5; v++) {
-            for (int what = -1; what <= 3; what++) {
-                is("voice(" + v + ", " + what + ")", x.voice(v, what), plain.voice(v, what));
-            }
-            is("rests(" + v + ")", x.rests(v), plain.rests(v));
-            askRows("rest", v, plain.rests(v));
-        }
-        for (int kind = -1; kind <= 3; kind++) {
-            is("pairs(" + kind + ")", x.pairs(kind), plain.pairs(kind));
-            askRows("pair", kind, Math.min(30, plain.pairs(kind)));
+        switch (draw.nextInt(8)) {
+            case 0: askNote(pickNote(), pick(0, 6)); break;
+            case 1: askNote(draw.nextInt(Math.max(1, plain.told(0))), 5 + draw.nextInt(2)); break;
+            case 2: askVoice(pick(0, 3), pick(0, 2)); break;
+            case 3: askRests(pick(0, 4)); break;
+            case 4: askPairs(pick(0, 2)); break;
+            case 5: askCost(pick(0, 4)); break;
+            case 6: askTold(pick(0, 4)); break;
+            default: askTimes(pick(0, span + longest));
         }
     }
 
-    private void askRows(String name, int of, int rows) {
-        for (int i = -1; i <= rows; i++) {
-            for (int what = -1; what <= 2; what++) {
-                String text = name + "(" + of + ", " + i + ", " + what + ")";
-                if (name.equals("rest")) is(text, x.rest(of, i, what), plain.rest(of, i, what));
-                else is(text, x.pair(of, i, what), plain.pair(of, i, what));
-            }
-        }
+    private void askNote(int one, int what) {
+        is("of(" + one + ", " + what + ")", x.of(one, what), plain.of(one, what));
+        if (what == 4 && call < CALLS) is("ranked(" + one + ")", x.ranked(one), plain.ranked(one));
+    }
+
+    private void askVoice(int v, int what) {
+        is("voice(" + v + ", " + what + ")", x.voice(v, what), plain.voice(v, what));
+    }
+
+    private void askRests(int v) {
+        int all = plain.rests(v), i = pick(0, Math.max(0, all - 1)), what = pick(0, 1);
+        if (draw.nextInt(3) == 0) is("rests(" + v + ")", x.rests(v), all);
+        else is("rest(" + v + ", " + i + ", " + what + ")", x.rest(v, i, what), plain.rest(v, i, what));
+    }
+
+    private void askPairs(int kind) {
+        int all = plain.pairs(kind), i = pick(0, Math.max(0, all - 1)), which = pick(0, 1);
+        if (draw.nextInt(3) == 0) is("pairs(" + kind + ")", x.pairs(kind), all);
+        else is("pair(" + kind + ", " + i + ", " + which + ")", x.pair(kind, i, which), plain.pair(kind, i, which));
+    }
+
+    private void askCost(int part) {
+        is("cost(" + part + ")", x.cost(part), plain.cost(part));
+    }
+
+    private void askTold(int what) {
+        is("told(" + what + ")", x.told(what), plain.told(what));
+    }
+
+    private void askTimes(int time) {
+        if (draw.nextInt(3) == 0) is("needed()", x.needed(), plain.needed());
+        else is("sounding(" + time + ")", x.sounding(time), plain.sounding(time));
     }
 }

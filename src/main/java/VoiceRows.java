@@ -580,7 +580,7 @@ public final class VoiceRows {
             for (int rank = 0; rank < score.count; rank++) {
                 int note = score.order[rank];
                 int line = firstBest(rank, state);
-                state = stateBehind(state, rank, line);
+                state = stateBehind(rank, state, line);
                 lines.last[line] = note;
                 score.voice[note] = line;
             }
@@ -598,7 +598,7 @@ public final class VoiceRows {
             Arrays.fill(known, 0, states, UNKNOWN);
         }
 
-        /** The least COST of the notes from this rank on. */
+        /** The least COST of the notes from this rank on; NONE if they can't be WHOLE. */
         private int onward(int rank, int state) {
             if (rank >= score.count) {
                 return 0;
@@ -606,33 +606,33 @@ public final class VoiceRows {
             if (known[state] != UNKNOWN) {
                 return known[state];
             }
+            int note = score.order[rank];
             int least = NONE;
             for (int line = 0; line < voices; line++) {
-                int sum = through(line, rank, state);
-                if (sum != NONE && (least == NONE || sum < least)) {
-                    least = sum;
+                int step = lines.added(note, line);
+                // What follows costs 0 at least, so a step as dear as the least needs no further look.
+                if (step != NONE && (least == NONE || step < least)) {
+                    int further = behind(rank, state, line);
+                    if (further != NONE && (least == NONE || step + further < least)) {
+                        least = step + further;
+                    }
                 }
             }
             known[state] = least;
             return least;
         }
 
-        /** The same, if the note of this rank goes into this line. */
-        private int through(int line, int rank, int state) {
-            int note = score.order[rank];
-            int step = lines.added(note, line);
-            if (step == NONE) {
-                return NONE;
-            }
-            int next = stateBehind(state, rank, line);
+        /** The same of the notes behind this rank, if its own note goes into this line. */
+        private int behind(int rank, int state, int line) {
+            int next = stateBehind(rank, state, line);
             int before = lines.last[line];
-            lines.last[line] = note;
+            lines.last[line] = score.order[rank];
             int further = onward(rank + 1, next);
             lines.last[line] = before;
-            return further == NONE ? NONE : step + further;
+            return further;
         }
 
-        private int stateBehind(int state, int rank, int line) {
+        private int stateBehind(int rank, int state, int line) {
             int before = lines.last[line];
             int digit = before == NONE ? 0 : score.rank[before] + 1;
             return state + (rank + 1 - digit) * place[line];
@@ -640,13 +640,16 @@ public final class VoiceRows {
 
         private int firstBest(int rank, int state) {
             int least = onward(rank, state);
-            int best = 0;
-            for (int line = voices - 1; line >= 0; line--) {
-                if (through(line, rank, state) == least) {
-                    best = line;
+            for (int line = 0; line < voices; line++) {
+                int step = lines.added(score.order[rank], line);
+                if (step != NONE && step <= least) {
+                    int further = behind(rank, state, line);
+                    if (further != NONE && step + further == least) {
+                        return line;
+                    }
                 }
             }
-            return best;
+            return 0;
         }
     }
 

@@ -64,6 +64,10 @@ public final class VoicingPromisesTest {
         VoiceRows y = Rows.of(Rows.row(0, 5, 60, 1), Rows.row(5, 6, 60, 1), Rows.row(4, 5, 60, 1));
         due.is("only the last two touch", y.find(1), Rows.NONE);
         due.same("its voices", Rows.voices(y), "111");
+        VoiceRows z = Rows.of(Rows.row(0, 2, 60), Rows.row(2, 9, 90), Rows.row(3, 9, 10), Rows.row(4, 9, 50));
+        Rows.weigh(z, 1000, 1000, 1000, 1000);
+        for (int n = 1; n <= 2; n++) due.is("whatever a part of them costs, find(" + n + ")", z.find(n), Rows.NONE);
+        due.same("its voices", Rows.voices(z), "----");
     }
 
     static void p7StateMoreThanFourteen() {
